@@ -7,6 +7,8 @@ public final class StateTest {
         undo();
         oldestIsDropped();
         allIsRestored();
+        beginAnew();
+        handoversAreRestored();
         whatSaves();
         digest();
         Check.end();
@@ -96,6 +98,48 @@ public final class StateTest {
         Check.is("a parcel after a delivered one was undone", Check.legs(y, 0, false), "0");
         Check.is("its share", Check.legs(y, 0, true), "0");
         Check.is("its values", Check.parcel(y, 0), "0 2 9 8 0 0 -1 0 0");
+    }
+
+    /** Whatever a courier and a parcel were before an undo, new ones begin anew. */
+    private static void beginAnew() {
+        CourierRelay x = new CourierRelay();
+        x.addCourier(65535, 5);
+        x.give(5, 7, 9, 8);
+        x.run(3);
+        x.undo();
+        x.undo();
+        x.undo();
+        x.addCourier(3, 1);
+        x.give(1, 0, 7, 6);
+        Check.is("a courier after a carrying one", Check.courier(x, 0), "3 1 0 0 -1 0");
+        Check.is("a parcel after a carried one", Check.parcel(x, 0), "1 0 7 6 0 1 -1 0 0");
+        x.undo();
+        x.undo();
+        x.addCourier(65535, 5);
+        x.give(5, 6, 9, 8);
+        x.run(3);
+        Check.is("a courier with tips", Check.courier(x, 0), "65535 6 8 0 -1 1");
+        x.undo();
+        x.undo();
+        x.undo();
+        x.addCourier(3, 1);
+        x.give(1, 0, 7, 6);
+        Check.is("a courier after one with tips", Check.courier(x, 0), "3 1 0 0 -1 0");
+        Check.is("a parcel after a delivered one", Check.parcel(x, 0), "1 0 7 6 0 1 -1 0 0");
+        Check.is("its legs and its share", Check.legs(x, 0, false) + Check.legs(x, 0, true), "00");
+    }
+
+    private static void handoversAreRestored() {
+        CourierRelay x = new CourierRelay();
+        x.addCourier(3, 0);
+        x.give(0, 2, 99, 1);
+        x.run(3);
+        x.run(1);
+        Check.is("handovers", x.value(9), 1);
+        x.undo();
+        Check.is("handovers after undo", x.value(9), 0);
+        x.run(1);
+        Check.is("handovers once more", x.value(9), 1);
     }
 
     private static int saved(CourierRelay x) {

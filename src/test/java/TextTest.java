@@ -7,6 +7,7 @@ public final class TextTest {
         append();
         clearText();
         parse();
+        shorterText();
         syntaxErrors();
         ranges();
         room();
@@ -68,6 +69,20 @@ public final class TextTest {
         Check.write(y, "8,9,10,11;");
         Check.is("parse() after errors", y.parse(), 1);
         Check.is("its parcel", Check.parcel(y, 0), "8 9 10 11 0 8 -1 0 0");
+    }
+
+    /** What stood in the text before it was emptied does not stand behind its end. */
+    private static void shorterText() {
+        CourierRelay x = new CourierRelay();
+        Check.write(x, "1,2,3,4;");
+        Check.write(x, "1,2,3,4");
+        Check.is("parse(), a semicolon was there", x.parse(), -10 - 7);
+        Check.write(x, "1,2,3,456;");
+        Check.write(x, "1,2,3,4");
+        Check.is("parse(), digits were there", x.parse(), -10 - 7);
+        Check.write(x, "1,2,3,4;5,6,7,8;");
+        Check.write(x, "5,6,7,8;");
+        Check.is("parse(), another item was there", x.parse(), 1);
     }
 
     private static void error(String text, int position) {

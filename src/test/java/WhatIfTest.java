@@ -7,6 +7,7 @@ public final class WhatIfTest {
         paidIn();
         bestZone();
         worth();
+        worthOfTheBusy();
         doneIn();
         afterTheEnd();
         Check.end();
@@ -54,6 +55,16 @@ public final class WhatIfTest {
         Check.fails("bestZone(0, -1)", ARGUMENT, () -> x.bestZone(0, -1));
         x.setArea(0, 65535);
         Check.is("bestZone with all zones", x.bestZone(0, 200), -1);
+        CourierRelay z = new CourierRelay();
+        z.addCourier(Check.area(1), 1);
+        z.give(1, 0, 100, 10);
+        Check.is("the zone 0", z.bestZone(0, 3), 0);
+        Check.is("asked again", z.bestZone(0, 3), 0);
+        Check.is("asked of fewer ticks", z.bestZone(0, 2), -1);
+        z.undo();
+        z.give(14, 15, 100, 10);
+        z.setArea(0, Check.area(14));
+        Check.is("the zone 15", z.bestZone(0, 200), 15);
         CourierRelay y = new CourierRelay();
         y.addCourier(Check.area(5), 5);
         y.give(5, 6, 100, 10);
@@ -95,6 +106,28 @@ public final class WhatIfTest {
         Check.is("worth(0, 2), the other one is not so quick", y.worth(0, 2), 10);
         Check.is("worth(0, 5)", y.worth(0, 5), 10);
         Check.is("worth(0, 6), the other one has taken what was dropped", y.worth(0, 6), 0);
+    }
+
+    private static void worthOfTheBusy() {
+        CourierRelay x = new CourierRelay();
+        x.addCourier(Check.area(1, 2), 1);
+        x.addCourier(Check.area(0, 1, 2), 0);
+        x.give(0, 2, 100, 10);
+        x.run(3);
+        Check.is("the second one carries", Check.courier(x, 1), "7 1 0 2 0 1");
+        // Dropped before the ticks: the first one chooses, takes and moves in three of them.
+        Check.is("worth(1, 2)", x.worth(1, 2), 10);
+        Check.is("worth(1, 3)", x.worth(1, 3), 0);
+        CourierRelay y = new CourierRelay();
+        y.addCourier(65535, 15);
+        y.give(0, 1, 100, 10);
+        y.run(3);
+        Check.is("on the way", Check.courier(y, 0), "65535 13 0 1 0 0");
+        Check.is("worth of the only one", y.worth(0, 200), 10);
+        Check.is("worth asked again", y.worth(0, 200), 10);
+        y.addCourier(65535, 0);
+        Check.is("another one takes what it was on the way to", y.worth(0, 200), 0);
+        Check.is("before it", y.worth(0, 5), -10);
     }
 
     private static void doneIn() {
