@@ -61,6 +61,10 @@ public final class WhatIfTest {
         Check.is("the zone 0", z.bestZone(0, 3), 0);
         Check.is("asked again", z.bestZone(0, 3), 0);
         Check.is("asked of fewer ticks", z.bestZone(0, 2), -1);
+        z.setArea(0, 3);
+        Check.is("paidIn(200), which plays to the end", z.paidIn(200), 10);
+        Check.is("no gain, after another question", z.bestZone(0, 200), -1);
+        z.undo();
         z.undo();
         z.give(14, 15, 100, 10);
         z.setArea(0, Check.area(14));
