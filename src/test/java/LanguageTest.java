@@ -5,6 +5,7 @@ import java.lang.reflect.Method;
 import java.lang.reflect.Modifier;
 import java.nio.file.Files;
 import java.nio.file.Path;
+import java.util.ArrayList;
 import java.util.HashSet;
 import java.util.List;
 import java.util.Set;
@@ -12,7 +13,7 @@ import java.util.TreeSet;
 import java.util.regex.Matcher;
 import java.util.regex.Pattern;
 
-/** The public face, and those rules of LANGUAGE.md that can be seen in the text. */
+/** The public face, and those rules of LANGUAGE.md that can be seen in the text or in the compiled class. */
 public final class LanguageTest {
     private static final Path SOURCE = Path.of("src/main/java/CourierRelay.java");
 
@@ -26,16 +27,34 @@ public final class LanguageTest {
 
     /** What the rules leave out, and the rule that does so. */
     private static final String[][] LEFT_OUT = {
-        {"\\b(import|package)\\b", "4"}, {"->|::", "2"}, {"\\b(synchronized|assert|finally)\\b", "6"},
-        {"\\b(try|catch)\\b", "6 (this program needs none)"}, {"\\w+Exact\\b", "4"}, {"\\bstatic\\s*\\{", "5"},
-        {"\\bThread|\\bSystem\\.(?!arraycopy)", "13"}, {"\\bequals\\s*\\(|\\bhashCode\\b|\\btoString\\b", "6"},
-        {"\"", "3 (this program needs no text)"}, {"while\\s*\\(\\s*true|for\\s*\\(\\s*;\\s*;", "9"}};
+        {"\\bpackage\\b", "the head"},
+        {"\\bimport\\s+(?!java\\.util\\.(ArrayList|List|Arrays|Iterator|NoSuchElementException)\\s*;)", "4"},
+        {"::", "2"}, {"^(?!\\s*(case|default)\\b).*->", "2"},
+        {"\\b(synchronized|assert|finally)\\b|\\btry\\s*\\(", "6"},
+        {"\\bcatch\\s*\\((?!\\s*(final\\s+)?(IllegalState|IllegalArgument|IndexOutOfBounds|Arithmetic"
+                + "|UnsupportedOperation|NoSuchElement|Runtime)Exception\\b)", "6"},
+        {"\\w+Exact\\b", "4"}, {"\\bstatic\\s*\\{", "5"}, {"\\bThread|\\bSystem\\.(?!arraycopy\\b)", "4 and 13"},
+        {"\\bequals\\s*\\(\\s*Object|\\bint\\s+hashCode\\s*\\(|\\bString\\s+toString\\s*\\(", "6"},
+        {"\\bextends\\s+\\w*(Exception|Error|Throwable)\\b", "6"},
+        {"while\\s*\\(\\s*true|for\\s*\\([^;]*;\\s*;", "9"}};
 
     public static void main(String[] args) throws IOException {
-        face();
-        names();
-        text();
+        Check.test("LANGUAGE.md, rule 1: the face", LanguageTest::face);
+        Check.test("LANGUAGE.md, rule 1: the names", LanguageTest::names);
+        Check.test("LANGUAGE.md, rule 5: static fields are final", LanguageTest::staticFields);
+        Check.test("LANGUAGE.md, rule 11: sizes", LanguageTest::sizes);
+        String source = Files.readString(SOURCE);
+        Check.test("LANGUAGE.md, what the rules leave out", () -> text(source));
         Check.end();
+    }
+
+    private static List<Class<?>> classes() {
+        List<Class<?>> all = new ArrayList<>();
+        all.add(CourierRelay.class);
+        for (int k = 0; k < all.size(); k++) {
+            all.addAll(List.of(all.get(k).getDeclaredClasses()));
+        }
+        return all;
     }
 
     private static String told(Method method) {
@@ -50,7 +69,7 @@ public final class LanguageTest {
         Check.is("the class's modifiers", CourierRelay.class.getModifiers(), Modifier.PUBLIC | Modifier.FINAL);
         Set<String> open = new TreeSet<>();
         for (Method method : CourierRelay.class.getDeclaredMethods()) {
-            if (!Modifier.isPrivate(method.getModifiers())) {
+            if (!Modifier.isPrivate(method.getModifiers()) && !method.isSynthetic()) {
                 open.add(told(method));
                 Check.is(told(method) + " is public alone", method.getModifiers(), Modifier.PUBLIC);
             }
@@ -71,25 +90,46 @@ public final class LanguageTest {
         for (String line : FACE) {
             open.add(line.replaceAll("^\\w+ |\\(.*", ""));
         }
-        for (Method method : CourierRelay.class.getDeclaredMethods()) {
-            boolean hidden = Modifier.isPrivate(method.getModifiers());
-            Check.is(told(method) + " hides a public name", hidden && open.contains(method.getName()), false);
+        for (Class<?> one : classes()) {
+            for (Method method : one.getDeclaredMethods()) {
+                boolean hidden = Modifier.isPrivate(method.getModifiers());
+                Check.is(told(method) + " hides a public name", hidden && open.contains(method.getName()), false);
+            }
+            boolean outer = one == CourierRelay.class;
+            Check.is(one + " is public", Modifier.isPublic(one.getModifiers()), outer);
+            Check.is(one + " is protected", Modifier.isProtected(one.getModifiers()), false);
         }
-        for (Class<?> inside : CourierRelay.class.getDeclaredClasses()) {
-            Check.is(inside + " is static", Modifier.isStatic(inside.getModifiers()), true);
-            Check.is(inside + " is public", Modifier.isPublic(inside.getModifiers()), false);
-            for (Method method : inside.getDeclaredMethods()) {
-                Check.is(told(method) + " inside bears a public name", open.contains(method.getName()), false);
+    }
+
+    private static void staticFields() {
+        for (Class<?> one : classes()) {
+            for (Field field : one.getDeclaredFields()) {
+                int marks = field.getModifiers();
+                boolean changes = Modifier.isStatic(marks) && !Modifier.isFinal(marks);
+                Check.is(field + " is static and not final", changes, false);
             }
         }
     }
 
-    private static void text() throws IOException {
-        String source = Files.readString(SOURCE);
-        String code = source.replaceAll("(?s)/\\*.*?\\*/|//[^\\n]*", "");
+    private static void sizes() {
+        Check.is("some twelve classes at most", classes().size() <= 13, true);
+        for (Class<?> one : classes()) {
+            int fields = 0;
+            for (Field field : one.getDeclaredFields()) {
+                fields += Modifier.isStatic(field.getModifiers()) ? 0 : 1;
+            }
+            Check.is(one + " has some twenty fields at most", fields <= 22, true);
+            for (Method method : one.getDeclaredMethods()) {
+                Check.is(told(method) + " has seven parameters at most", method.getParameterCount() <= 7, true);
+            }
+        }
+    }
+
+    private static void text(String source) {
+        String code = source.replaceAll("(?s)/\\*.*?\\*/|//[^\\n]*|\"(\\\\.|[^\"\\\\\\n])*\"", "");
         for (String[] rule : LEFT_OUT) {
-            Matcher found = Pattern.compile(rule[0]).matcher(code);
-            Check.is("LANGUAGE.md rule " + rule[1], found.find() ? found.group() : "nothing", "nothing");
+            Matcher found = Pattern.compile(rule[0], Pattern.MULTILINE).matcher(code);
+            Check.is("rule " + rule[1], found.find() ? found.group() : "nothing", "nothing");
         }
         Check.is("signs beyond 127", source.chars().filter(c -> c > 127).count(), 0L);
     }
