@@ -95,6 +95,13 @@ public final class Promise06Test {
         Check.is("values", Check.values(x), "3 1 1 10 0 1 0 0 0 0 1");
         x.drop(0);
         Check.is("values then", Check.values(x), "3 1 1 10 1 0 0 0 0 0 1");
+        CourierRelay sought = Made.one(Check.area(2, 3), 2, 3, 99, 5);
+        sought.run(2);
+        Check.is("values, on the way", Check.values(sought), "2 1 1 10 1 0 0 0 0 0 1");
+        sought.drop(0);
+        Check.is("values then, on the way", Check.values(sought), "2 1 1 10 1 0 0 0 0 0 1");
+        sought.drop(0);
+        Check.is("values then, free", Check.values(sought), "2 1 1 10 1 0 0 0 0 0 1");
         CourierRelay y = Made.some();
         y.drop(0);
         Check.is("values of some", Check.values(y), "25 2 4 1 2 0 1 1 9 1 7");
